@@ -105,6 +105,37 @@ public final class PromisesTest {
         C.due("3: no longer so many", x.end(4), false);
         C.due("3: none", x.end(0), true);
         C.due("3: no bytes", x.count(3), 0);
+        bytesBehindTheEndAreNoMatter();
+    }
+
+    /** The tape has its first bytes alone, whatever it had behind them. */
+    private static void bytesBehindTheEndAreNoMatter() {
+        KeyLetters x = Checks.told(Checks.OFFICE);
+        feedAndEnd(x, "\0\1\2\u00ff\u00ff", 3);
+        C.due("3: WAYS of three", x.ways(), 3);
+        feedAndEnd(x, "\0\1\2\u00ff\u00ff", 3);
+        C.due("3: LACKS of three", x.lacks(), 0);
+        feedAndEnd(x, "\4\6\0", 2);
+        C.due("3: SHIP of two", x.ship(), 12);
+        feedAndEnd(x, "loveX", 4);
+        C.due("3: FAINT of four", x.faint(), 4);
+        feedAndEnd(x, "heldby", 4);
+        C.due("3: a WORD of four letters", x.sentence(), 1);
+        feedAndEnd(x, "ink > 399", 7);
+        C.due("3: a NUMBER of one digit", x.sentence() * 100 + x.said(NONE), 103);
+        feedAndEnd(x, "day 1;day 400;", 6);
+        C.due("3: a BOOK of one LINE", x.book(0) * 10 + x.told(1), 10 * NONE + 1);
+        feedAndEnd(x, "machine m 9;;", 12);
+        C.due("3: an OFFICE of one LINE", x.office(), 1);
+        feedAndEnd(x, "machine m 9;", 11);
+        C.due("3: an OFFICE whose LINE is cut off", x.office(), -12);
+        feedAndEnd(x, "phrase m 9 9;", 0);
+        C.due("3: an OFFICE of no bytes", x.office(), 0);
+    }
+
+    private static void feedAndEnd(KeyLetters x, String text, int bytes) {
+        Checks.feed(x, text);
+        x.end(bytes);
     }
 
     private static void promise4Office() {

@@ -484,6 +484,11 @@ public final class TermsTextEdgesTest {
         T.sentenceHolds("not held or ".repeat(9) + "not held", 20);
         T.sentenceHolds("(held) or ".repeat(9) + "(held)", 20);
         T.sentenceFault("held or ".repeat(20) + "|held", 4);
+        T.sentenceFault("mute and ".repeat(20) + "|mute", 4);
+        T.sentenceFault("held or held and ".repeat(10) + "|held", 4);
+        T.sentenceFault("(held) or ".repeat(10) + "|(held)", 4);
+        T.sentenceFault("not held or ".repeat(10) + "|not held", 4);
+        T.sentenceFault("not held or ".repeat(9) + "held or not |held", 4);
     }
 
     private static void eightOnesWithinOneAnother() {
